@@ -40,14 +40,14 @@ class Edges {
     return begin < 0 || end < begin ? "" : DOCUMENT.substring(begin, end);
   }
 
-  /** A sentence of a promise, as it stands in the document, and its test. */
+  /** A sentence of a promise, as it stands in the document (if that can be read here), and its test. */
   static void sentence(int number, String quoted, Test test) {
     promise = number;
     words = quoted;
     sentences++;
     asked = 0;
     int before = wrong;
-    if (!section(number).contains(quoted)) tell("the document doesn't say so");
+    if (!DOCUMENT.isEmpty() && !section(number).contains(quoted)) tell("the document doesn't say so");
     try {
       test.run();
     } catch (RuntimeException e) {
@@ -247,11 +247,17 @@ class Edges {
     return x;
   }
 
-  /** No more people, SAYINGS or bytes can come; SPOTS and a sheet are full. */
+  /** No more people, SAYINGS or bytes can come; SPOTS and a sheet are full; the last of each is other than at first. */
   static NobodySaid full() {
-    NobodySaid x = town(PERSON, GOSSIP, CLERK, JUDGE, NOBODY, MUTE, CHILD, PERSON);
+    NobodySaid x = town(PERSON, GOSSIP, CLERK, JUDGE, NOBODY, MUTE, PERSON, CHILD);
     for (int i = 0; i < 6; i++) x.saying(7 - i, i, 9 - i);
-    lists(x, 75, 61, 53, 40, 17, 72);
+    lists(x, 75, 61, 53, 40, 17, 62);
+    x.change(2, 0, GOSSIP);
+    x.talk(2, 7);
+    x.change(2, 0, CLERK);
+    x.change(7, 1, 2);
+    x.change(7, 3, 3);
+    x.change(7, 2, 1);
     x.image();
     x.go(9);
     for (int spot = 0; spot < 10; spot++) x.hold(spot, 7 - spot % 8);

@@ -11,6 +11,21 @@ public final class NobodySaidEdgesDays extends Edges {
   }
 
   static void aDay() {
+    sentence(TERMS, "Quotients are cut.", () -> {
+      // A sixth of DAY 11 is 1, of DAY 35 it is 5, of DAY 41 6, which leaves 0.
+      NobodySaid x = town(PERSON);
+      for (int s = 0; s < 6; s++) x.saying(0, 7, s + 1);
+      int[] fund = {0, 1, 3, 6, 10, 15, 21, 22};
+      for (int day = 0; day < 48; day++) {
+        due(fund[day / 6], x.now(1));
+        x.go(1);
+      }
+    });
+    sentence(TERMS, "FUND (0 to 99999; 0 at first)", () -> {
+      due(0, new NobodySaid().now(1));
+      due(0, new NobodySaid().go(60));
+      due(99999, goTo(40000, tried(GOSSIP, 9)).now(1));
+    });
     sentence(TERMS, "If DAY leaves 5 by 6 then, there is a TRIAL", () -> {
       NobodySaid x = tried(PERSON, 1);
       for (int day = 1; day <= 60; day++) {
@@ -344,6 +359,17 @@ public final class NobodySaidEdgesDays extends Edges {
   }
 
   static void ahead() {
+    sentence(TERMS, "what will be (nothing changes)", () -> {
+      for (Make make : new Make[] {Edges::lived, Edges::full, () -> goTo(99990, lived())}) {
+        changesNothing(make, x -> x.ahead(0, 3, 100));
+        changesNothing(make, x -> x.ahead(0, 4, 100));
+        changesNothing(make, x -> x.spread(0, 100));
+        changesNothing(make, x -> x.when(0, 4));
+        changesNothing(make, x -> x.when(0, 0));
+        changesNothing(make, x -> x.blamed(0, 9999));
+        changesNothing(make, x -> x.fund(99999));
+      }
+    });
     sentence(15, "What 3, 4 (as in of()) of one behind n (0 to 100) DAYS.", () -> {
       NobodySaid x = tried(PERSON, 1);
       due(0, x.ahead(0, 3, 0));
@@ -358,6 +384,17 @@ public final class NobodySaidEdgesDays extends Edges {
       due(0, y.ahead(6, 4, 30));
       due(1, y.ahead(6, 4, 31));
       due(1, y.ahead(6, 4, 100));
+      // It is what comes to be, for each of eight and with each of six SAYINGS.
+      for (Make make : new Make[] {Edges::lived, Edges::full, Edges::chain}) {
+        for (int n = 1; n <= 60; n++) {
+          NobodySaid before = make.make(), then = make.make();
+          then.go(n);
+          for (int p = 0; p < then.count(1); p++) {
+            due(then.of(p, 3), before.ahead(p, 3, n));
+            due(then.of(p, 4), before.ahead(p, 4, n));
+          }
+        }
+      }
     });
     sentence(15, "BEYOND.", () -> {
       refuses(BEYOND, Edges::lived, (x, v) -> x.ahead(v, 3, 1), -1, 5, 8, MIN, MAX);
@@ -376,6 +413,11 @@ public final class NobodySaidEdgesDays extends Edges {
         due((1 << knowing) - 1, x.spread(0, n));
       }
       due(127, x.spread(0, 100));
+      for (int n = 1; n <= 60; n++) {
+        NobodySaid before = full(), then = full();
+        then.go(n);
+        for (int s = 0; s < 6; s++) due(then.ofSaying(s, 2), before.spread(s, n));
+      }
     });
     sentence(16, "BEYOND.", () -> {
       refuses(BEYOND, Edges::lived, (x, v) -> x.spread(v, 1), -1, 3, 6, MIN, MAX);

@@ -410,36 +410,45 @@ public final class NobodySaidEdgesSheets extends Edges {
     });
   }
 
+  /** Nothing is as it was then, but for the tape and the sheets. */
+  private static void turnOver(NobodySaid x) {
+    x.person(CHILD, 1);
+    int[] quiet = new int[8];
+    for (int p = 0; p < x.count(1); p++) {
+      x.change(p, 0, GOSSIP);
+      quiet[p] = x.change(p, 2, 0);
+    }
+    x.saying(0, 1, 2);
+    for (int p = 1; p < x.count(1); p++) {
+      x.talk(p - 1, p);
+      x.talk(p, p - 1);
+    }
+    for (int p = 0; p < x.count(1); p++) {
+      x.change(p, 0, (x.of(p, 0) + 3) % 7);
+      x.change(p, 1, (x.of(p, 1) + 1) % 10);
+      x.change(p, 2, 1 - quiet[p]);
+      x.change(p, 3, 77 + p);
+    }
+    for (int s = 0; s < x.count(2); s++) {
+      x.alter(s, 0, (x.ofSaying(s, 0) + 1) % 8);
+      x.alter(s, 1, (x.ofSaying(s, 1) + 1) % 10);
+    }
+    lists(x, 7, 7, 7, 7, 7, 7);
+    x.go(60);
+    x.evening(20);
+    for (int spot = 0; spot < 10; spot++) x.hold(spot, spot % 2 == 0 ? -1 : 0);
+  }
+
   static void images() {
     sentence(40, "All but THE TAPE and SHEETS is kept: 1.", () -> {
-      // Everything else is as it was, whatever came between.
-      NobodySaid x = lived(), due = lived();
-      due(1, x.image());
-      due(1, due.image());
-      x.person(CHILD, 1);
-      for (int p = 0; p < 6; p++) {
-        x.change(p, 0, MUTE);
-        x.change(p, 1, 0);
-        x.change(p, 2, 1 - x.of(p, 2));
-        x.change(p, 3, 77 + p);
+      // Everything else is as it was, whatever came between, in a town with room left and in a full one.
+      for (Make make : new Make[] {Edges::lived, Edges::full}) {
+        NobodySaid x = make.make();
+        due(1, x.image());
+        turnOver(x);
+        due(make.make().now(0), x.undo());
+        same(print(imaged(make.make())), print(x));
       }
-      x.saying(0, 1, 2);
-      for (int s = 0; s < 4; s++) {
-        x.alter(s, 0, 6);
-        x.alter(s, 1, 0);
-      }
-      lists(x, 7, 7, 7, 7, 7, 7);
-      x.change(0, 2, 0);
-      x.change(1, 2, 0);
-      x.change(1, 0, GOSSIP);
-      x.change(0, 0, GOSSIP);
-      x.talk(0, 1);
-      x.talk(1, 0);
-      x.go(60);
-      x.evening(20);
-      for (int spot = 0; spot < 10; spot++) x.hold(spot, spot % 2 == 0 ? -1 : 0);
-      due(8, x.undo());
-      same(print(due), print(x));
       // The tape and the sheets are as they came to be.
       NobodySaid y = lived();
       y.image();
@@ -459,7 +468,7 @@ public final class NobodySaidEdgesSheets extends Edges {
       due(2, size(y, 3));
     });
     sentence(40, "is kept: 1", () -> {
-      // Of an empty town as well, and of a full one.
+      // Of an empty town as well.
       NobodySaid x = new NobodySaid();
       due(1, x.image());
       x.person(0, 0);
@@ -467,12 +476,6 @@ public final class NobodySaidEdgesSheets extends Edges {
       x.hold(0, 0);
       due(0, x.undo());
       same(print(imaged(new NobodySaid())), print(x));
-      NobodySaid y = full();
-      due(1, y.image());
-      y.go(60);
-      y.hold(3, -1);
-      due(9, y.undo());
-      same(print(imaged(full())), print(y));
     });
     sentence(41, "It becomes what was kept latest (which stays): DAY.", () -> {
       NobodySaid x = new NobodySaid();

@@ -6,7 +6,7 @@ public final class NobodySaidEdgesTown extends Edges {
       NobodySaid x = full();
       due(-1000001, x.go(0));
       due(-1000002, x.person(0, 0));
-      due(-1000003, x.as(0, CHILD));
+      due(-1000003, x.as(0, MUTE));
       due(-1000004, x.from(0, 0));
       x.change(0, 2, 1);
       due(-1000005, x.talk(0, 1));
@@ -29,6 +29,19 @@ public final class NobodySaidEdgesTown extends Edges {
   }
 
   static void theList() {
+    sentence(TERMS, "Sets are told as bits", () -> {
+      // The last of eight people is 128, the last of six SAYINGS is 32.
+      NobodySaid x = town(0, 0, 0, 0, 0, 0, 0, 0);
+      due(255, x.now(6));
+      for (int s = 0; s < 6; s++) x.saying(7, 0, s < 5 ? 9 : 0);
+      due(128, x.ofSaying(5, 2));
+      due(32, x.talk(7, 0));
+      due(32, x.of(0, 4));
+      due(128 + 1, x.ofSaying(5, 2));
+      for (int p = 1; p < 7; p++) x.talk(7, p);
+      due(32, x.now(3));
+      due(255, x.ofSaying(5, 2));
+    });
     sentence(TERMS, "THE LIST: six TALKS, one for DAY modulo 6", () -> {
       // Each place in turn is the only one that tells; its DAY comes, and comes again six DAYS on.
       for (int place = 0; place < 6; place++) {
@@ -143,6 +156,16 @@ public final class NobodySaidEdgesTown extends Edges {
   }
 
   static void people() {
+    sentence(TERMS, "of KINDS: 0 PERSON; 1 GOSSIP, 2 CLERK, 5 MUTE under PERSON; 3 JUDGE under CLERK; 4 NOBODY under JUDGE; 6 CHILD under GOSSIP", () -> {
+      int[] above = {-1, PERSON, PERSON, CLERK, JUDGE, PERSON, GOSSIP};
+      for (int kind = 0; kind < 7; kind++) {
+        NobodySaid x = town(kind);
+        x.hold(0, 0);
+        int ways = 0;
+        for (int at = kind; at >= 0; at = above[at]) ways |= 1 << at;
+        for (int asked = 0; asked < 7; asked++) due((ways >> asked & 1) == 1 ? 0 : KIND, x.as(0, asked));
+      }
+    });
     sentence(TERMS, "PEOPLE 0, 1, .. (at most 8)", () -> {
       NobodySaid x = new NobodySaid();
       for (int p = 0; p < 8; p++) due(p, x.person(p % 7, 9 - p));
@@ -190,7 +213,7 @@ public final class NobodySaidEdgesTown extends Edges {
       x.change(7, 3, 9999);
       x.change(7, 2, 1);
       x.change(7, 1, 9);
-      due(PERSON, x.of(7, 0));
+      due(CHILD, x.of(7, 0));
       due(9, x.of(7, 1));
       due(1, x.of(7, 2));
       due(9999, x.of(7, 3));
@@ -471,6 +494,26 @@ public final class NobodySaidEdgesTown extends Edges {
   }
 
   static void talks() {
+    sentence(TERMS, "if A TELLS it and B BELIEVES it, B HEARD it from then on, FROM whom B NAMES", () -> {
+      // 0 tells all but the last, which is ABOUT himself; 1 takes all but the second, which is above his TRUST.
+      NobodySaid x = town(PERSON, CLERK, PERSON);
+      x.saying(0, 2, 5);
+      x.saying(0, 2, 6);
+      x.saying(0, 2, 0);
+      x.saying(0, 0, 0);
+      due(1 + 4, x.talk(0, 1));
+      due(NONE, x.from(1, 1));
+      due(NONE, x.from(3, 1));
+      all(0, x.from(0, 1), x.from(2, 1));
+      // The clerk tells the heavy one alone, and it is his from then on, whatever becomes of it.
+      due(1, x.talk(1, 2));
+      due(1, x.from(0, 2));
+      x.alter(0, 1, 9);
+      x.alter(0, 0, 1);
+      due(7, x.ofSaying(0, 2));
+      due(1, x.from(0, 2));
+      due(0, x.from(0, 1));
+    });
     sentence(TERMS, "A TALK of A to B (if neither A nor B is QUIET)", () -> {
       for (int quiet = 0; quiet < 4; quiet++) {
         NobodySaid x = town(GOSSIP, GOSSIP, GOSSIP);
@@ -527,8 +570,8 @@ public final class NobodySaidEdgesTown extends Edges {
       refuses(BEYOND, Edges::full, (x, v) -> x.talk(v, 0), -1, 8);
       refuses(BEYOND, Edges::full, (x, v) -> x.talk(0, v), -1, 8);
       refuses(BEYOND, NobodySaid::new, x -> x.talk(0, 1));
-      takes(Edges::full, (x, v) -> x.talk(7, v), 0, 6);
-      takes(Edges::full, (x, v) -> x.talk(v, 7), 0, 6);
+      takes(() -> town(0, 0, 0, 0, 0, 0, 0, 0), (x, v) -> x.talk(7, v), 0, 6);
+      takes(() -> town(0, 0, 0, 0, 0, 0, 0, 0), (x, v) -> x.talk(v, 7), 0, 6);
     });
     sentence(12, "STATE: one is QUIET.", () -> {
       // 4 is QUIET in this town; then 0 is, too.

@@ -1,10 +1,5 @@
 /** For each promise of the document ordinary inputs, its edges and wrong inputs, with answers told by hand. */
-public final class NobodySaidPromises {
-  static final int BEYOND = -1000001, FULL = -1000002, KIND = -1000003, NONE = -1000004,
-      STATE = -1000005, MISSING = -1000006, SIZE = -1000007;
-  static final int PERSON = 0, GOSSIP = 1, CLERK = 2, JUDGE = 3, NOBODY = 4, MUTE = 5, CHILD = 6;
-  static final int MIN = Integer.MIN_VALUE, MAX = Integer.MAX_VALUE;
-
+public final class NobodySaidPromises extends Edges {
   private static int wrong = 0;
   private static int promise = 0;
   private static int asked = 0;
@@ -21,32 +16,6 @@ public final class NobodySaidPromises {
 
   /** All of these are due to be the same. */
   static void all(long want, long... got) { for (long g : got) due(want, g); }
-
-  /** A town of people of these kinds, each with TRUST 5. */
-  static NobodySaid town(int... kinds) {
-    NobodySaid x = new NobodySaid();
-    for (int i = 0; i < kinds.length; i++) x.person(kinds[i], 5);
-    return x;
-  }
-
-  static void lists(NobodySaid x, int... talks) {
-    for (int i = 0; i < talks.length; i++) x.list(i, talks[i] / 10, talks[i] % 10);
-  }
-
-  static void paper(NobodySaid x, int s, int bits, int... numbers) {
-    x.sheet(s, bits, numbers.length);
-    for (int i = 0; i < numbers.length; i++) x.write(s, i, numbers[i]);
-  }
-
-  static int read(NobodySaid x, String text) {
-    x.wipe();
-    for (int i = 0; i < text.length(); i += 4) {
-      int bytes = 0, n = Math.min(4, text.length() - i);
-      for (int k = 0; k < n; k++) bytes = bytes << 8 | text.charAt(i + k);
-      x.feed(bytes, n);
-    }
-    return x.text();
-  }
 
   static void newObject() {
     promise(1);
@@ -347,14 +316,6 @@ public final class NobodySaidPromises {
     due(1, x.now(1));
     due(3, x.now(5));
     all(BEYOND, x.now(-1), x.now(8), x.now(MIN), x.now(MAX));
-  }
-
-  /** 0 tells 1 on day 0, 1 tells 2 on day 1, 2 tells 3 on day 2; all are persons. */
-  static NobodySaid chain() {
-    NobodySaid x = town(PERSON, PERSON, PERSON, PERSON);
-    x.saying(0, 7, 5);
-    lists(x, 1, 12, 23, 0, 0, 0);
-    return x;
   }
 
   static void ahead() {
